@@ -284,7 +284,7 @@ public final class YoungerMilk {
             return BAD;
         }
         int left = comes.leftOverInYear(now, z, n);
-        return what == 0 ? comes.then.notGone(laid.count) : left;
+        return what == 0 ? comes.then.notGone() : left;
     }
 
     public int keep() {
@@ -310,7 +310,7 @@ public final class YoungerMilk {
             case 1: return laid.count;
             case 2: return laid.hold;
             case 3: return now.date;
-            case 4: return laid.count - now.notGone(laid.count);
+            case 4: return laid.count - now.notGone();
             case 5: return Integer.bitCount(now.quarrelled);
             case 6: return downInAll();
             case 7: return leftOverInAll();
@@ -588,9 +588,9 @@ public final class YoungerMilk {
             quarrelled ^= 1 << y;
         }
 
-        int notGone(int count) {
+        int notGone() {
             int sum = 0;
-            for (int y = 0; y < YOUNGER && y < count; y++) {
+            for (int y = 0; y < YOUNGER; y++) {
                 sum += well[y] > 0 ? 1 : 0;
             }
             return sum;
@@ -612,7 +612,6 @@ public final class YoungerMilk {
 
         void clear() {
             size = 0;
-            next = 0;
         }
 
         void push(Standing standing) {
@@ -768,7 +767,7 @@ public final class YoungerMilk {
             for (int i = 0; i < HELP_DAYS; i++) {
                 day.goBy(then);
             }
-            return then.notGone(plan.count) - (then.well[y] > 0 ? 1 : 0);
+            return then.notGone() - (then.well[y] > 0 ? 1 : 0);
         }
 
         int leftOverInYear(Standing now, int z, int n) {

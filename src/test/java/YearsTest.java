@@ -78,6 +78,9 @@ public final class YearsTest {
         for (int what = 0; what < 12; what++) {
             Due.is("P25 nothing changes by it", milk.count(what), new YoungerMilk().count(what));
         }
+        // DRAW is 51303, 32612, 6768 then: 23 is set down at step 1 ahead of the third day, where nobody is
+        Due.is("P25 year(9999, 3, 0)", milk.year(9999, 3, 0), 6);
+        Due.is("P25 year(9999, 3, 1)", milk.year(9999, 3, 1), 26);
         // DRAW is 1 ahead of the first day: nothing is set down at step 0 then, so what was put there is not left over
         Due.is("P25 year(0, 1, 0)", milk.year(0, 1, 0), 6);
         Due.is("P25 year(0, 1, 1)", milk.year(0, 1, 1), 1);

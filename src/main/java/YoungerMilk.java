@@ -519,9 +519,10 @@ public final class YoungerMilk {
             int item = 0;
             int many = 0;
             int figures = 0;
-            for (int i = 1; i < length; i++) {
+            for (int i = 0; i < length; i++) {
                 int letter = letters[i];
                 if (i == item) {
+                    // which letter it is, is for the plan to judge, when the item's numbers are all read
                     continue;
                 }
                 if (letter >= '0' && letter <= '9' && figures < 2 && many < NUMBERS) {
@@ -811,7 +812,7 @@ public final class YoungerMilk {
         private final Standing then = new Standing();
         private final int[][] stay = new int[STEPS][MOST_SHARE + 1];
         /** The most that the steps from one on are worth with so much left for them. */
-        private final int[][] worth = new int[STEPS + 1][MOST_TO_SHARE + 1];
+        private final int[][] worth = new int[STEPS][MOST_TO_SHARE + 1];
         final int[] share = new int[STEPS];
         int kept;
 
@@ -825,7 +826,7 @@ public final class YoungerMilk {
                 stayBy(now, each, n);
             }
             // what is set down at one step changes nothing at others, so the steps can be settled from the last one on
-            for (int x = plan.steps - 1; x >= 0; x--) {
+            for (int x = plan.steps - 1; x > 0; x--) {
                 for (int left = 0; left <= m; left++) {
                     worth[x][left] = worthOf(x, left, bestShare(x, left));
                 }

@@ -150,6 +150,7 @@ public final class ComesTest {
         shares("what two steps get is not left for the third", Due.laid("s4;y0,0,0,2,1;y0,0,0,2,1;y0,1,0,3,1;y0,2,0,9,1;"
             + "y0,3,0,6,1;"), 13, 1, 4, 4, 3, 0, 6);
         shares("one less", Due.laid("s4;y0,0,0,2,1;y0,0,0,2,1;y0,1,0,3,1;y0,2,0,9,1;y0,3,0,6,1;"), 12, 1, 3, 4, 3, 0, 0);
+        shares("nothing is left for one that needs nothing", Due.laid("s2;y0,0,0,1,1;y0,1,0,1,9;"), 1, 1, 2, 1, 0);
         shares("what is set down does not matter", Due.laid("s2;c0,9;c1,9;y0,0,0,3,1;y0,1,0,2,1;"), 4, 1, 1, 0, 2);
         shares("a full street", Due.laid("s9;y0,0,0,9,1;y0,1,0,9,1;y0,2,0,9,1;y0,3,0,9,1;y0,4,0,9,1;y0,5,0,9,1;"
             + "y0,7,0,9,1;y0,8,0,9,1;"), 99, 20, 8, 9, 9, 9, 9, 9, 9, 0, 9, 9);

@@ -68,6 +68,9 @@ public final class ModelTest {
             } else if (most == 7) {
                 most = model.answer("count", 1, 0, 0, 0) - (chance.nextInt(8) > 0 ? 1 : 0);
             }
+            if (CALLS[which].equals("best") && i == 0 && chance.nextBoolean()) {
+                most = 12;
+            }
             n[i] = chance.nextInt(most + (chance.nextInt(9) == 0 ? 2 : 1));
             if (which == 15 && i == 2) {
                 n[i]--;

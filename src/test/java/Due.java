@@ -12,6 +12,13 @@ final class Due {
         }
     }
 
+    static void is(String call, String got, String want) {
+        if (!got.equals(want)) {
+            wrong++;
+            System.out.println(call + " answered\n    " + got + ", due is\n    " + want);
+        }
+    }
+
     static YoungerMilk write(YoungerMilk milk, String text) {
         milk.wipe();
         for (int i = 0; i < text.length(); i++) {

@@ -95,7 +95,7 @@ public final class ModelTest {
         }
         String name = CALLS[which];
         calls.append(' ').append(name).append(java.util.Arrays.toString(n));
-        int got = answer(name, n[0], n[1], n[2], n[3]);
+        int got = Calls.answer(milk, name, n[0], n[1], n[2], n[3]);
         int want = model.answer(name, n[0], n[1], n[2], n[3]);
         if (got != want) {
             same = false;
@@ -142,37 +142,5 @@ public final class ModelTest {
         }
         text.setLength(Math.min(text.length(), 200));
         return text.toString();
-    }
-
-    private int answer(String call, int a, int b, int c, int d) {
-        switch (call) {
-            case "write": return milk.write(a);
-            case "wipe": return milk.wipe();
-            case "fault": return milk.fault();
-            case "lay": return milk.lay();
-            case "step": return milk.step(a, b);
-            case "younger": return milk.younger(a, b);
-            case "pass": return milk.pass(a);
-            case "put": return milk.put(a, b);
-            case "quarrel": return milk.quarrel(a, b);
-            case "cats": return milk.cats(a, b);
-            case "undo": return milk.undo();
-            case "behind": return milk.behind(a, b);
-            case "goes": return milk.goes(a);
-            case "least": return milk.least(a, b);
-            case "round": return milk.round();
-            case "best": return milk.best(a, b, c);
-            case "help": return milk.help(a);
-            case "see": return milk.see(a, b);
-            case "forget": return milk.forget();
-            case "within": return milk.within(a, b);
-            case "isCats": return milk.isCats(a);
-            case "was": return milk.was(a, b, c);
-            case "snows": return milk.snows(a, b, c, d);
-            case "year": return milk.year(a, b, c);
-            case "keep": return milk.keep();
-            case "back": return milk.back();
-            default: return milk.count(a);
-        }
     }
 }

@@ -283,6 +283,9 @@ public final class DayEdgesTest {
         Due.is(says + ": nothing", milk.put(8, 0), 40);
         Due.is(says + ": all that can be", milk.put(8, 40), 0);
         Due.is(says + ": the same", milk.put(8, 40), 40);
+        Due.is(says + ": the same is an act too", milk.count(9), 3);
+        Due.is(says + ": and can be undone", milk.undo(), 2);
+        Due.is(says + ": nothing else is", milk.step(8, 0), 40);
         milk.pass(20);
         Due.is(says + ": from then on", milk.step(8, 0), 40);
         Due.is(says + ": one more than can be", milk.put(8, 41), BAD);
@@ -297,6 +300,9 @@ public final class DayEdgesTest {
         Due.is(says + ": nothing", milk.cats(8, 0), 9);
         Due.is(says + ": all that can be", milk.cats(8, 9), 0);
         Due.is(says + ": the same", milk.cats(8, 9), 9);
+        Due.is(says + ": the same is an act too", milk.count(9), 3);
+        Due.is(says + ": and can be undone", milk.undo(), 2);
+        Due.is(says + ": nothing else is", milk.step(8, 1), 9);
         milk.pass(20);
         Due.is(says + ": from then on", milk.step(8, 2), 31);
         Due.is(says + ": one more than can be", milk.cats(8, 10), BAD);
